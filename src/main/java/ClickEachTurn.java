@@ -256,7 +256,7 @@ public final class ClickEachTurn {
         int missed = 0;
         for (int i = 0; i < all; i++) {
             seed = seed * 1664525 + 1013904223;
-            int draw = (seed & Integer.MAX_VALUE) / 256 % 100;
+            int draw = (seed & 0x7fffffff) / 256 % 100;
             missed += draw < now.settings[SLIPS] ? 1 : 0;
         }
         return all - missed;

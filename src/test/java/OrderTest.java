@@ -123,7 +123,10 @@ public final class OrderTest {
 
     private static void tooManyHeld() {
         String four = "qp00,0,1,1;qp00,0,1,1;qp00,0,1,1;qp00,0,1,1;";
-        ClickEachTurn x = Checks.bike(four, "qp00,0,1,1;qp00,0,1,1;qp00,0,1,1;");
+        ClickEachTurn x = Checks.bike(four, "qp00,0,1,1;qp00,0,2,1;");
+        for (int i = 0; i < 6; i++) x.row(i);
+        Checks.due(30, "six faults", x.held(), 5);
+        Checks.read(x, "qp00,0,1,1;");
         Checks.refused(30, "seven faults, no row", x, -3, x::held);
         for (int i = 6; i >= 0; i--) x.row(i);
         Checks.refused(30, "seven faults", x, -6, x::held);
@@ -168,7 +171,7 @@ public final class OrderTest {
             x.go();
             x.oil();
             x.drop();
-            x.stage(5, 0, 1);
+            x.stage(5, 1, 1);
             Checks.read(x, "f44;k108;r40;qp00,0,1,1;");
             x.go();
             Checks.due(32, "on()", x.on(), 2);

@@ -146,8 +146,22 @@ public final class RideTest {
         Checks.due(13, "from turn 20 on", x.when(4, 0), 2019);
         x.go();
         Checks.due(13, "and is no smaller then", x.counts(4), 60);
+        acrossStages();
         Checks.refused(13, "no such fault", x, -1, () -> x.counts(5));
         Checks.refused(13, "no such fault", x, -1, () -> x.counts(-1));
+    }
+
+    /** Cracks grow and oil wears off from stage to stage of one ride. */
+    private static void acrossStages() {
+        ClickEachTurn x = Checks.bike("r10;qc20,9,1,1;qd50,0,1,1;");
+        x.stage(5, 0, 19);
+        x.stage(1, 0, 3);
+        x.oil();
+        x.set(3, 20);
+        Checks.due(13, "a crack in the second stage", x.counts(0), 2);
+        Checks.due(13, "its first click", x.when(0, 0), 2019);
+        Checks.due(13, "oil in the second stage", x.counts(1), 2);
+        Checks.due(13, "the first click without it", x.when(1, 0), 2049);
     }
 
     /** What is in mind leaves all as it was. */
@@ -193,6 +207,7 @@ public final class RideTest {
         Checks.refused(14, "no turns", x, -4, () -> x.stageCounts(0, 0, 0, 0));
         Checks.refused(14, "61 turns", x, -6, () -> x.stageCounts(0, 0, 0, 61));
         Checks.due(14, "60 turns", x.stageCounts(0, 0, 0, 60), 60);
+        Checks.due(14, "1 turn", x.stageCounts(0, 0, 0, 1), 1);
     }
 
     private static void promise15() {

@@ -47,6 +47,8 @@ public final class TellTest {
         Checks.due(19, "alone", x.odds(1, 20, 0, 1), 1);
         Checks.due(19, "9 of 24", x.odds(1, 9999, 9999, 0), 3);
         Checks.due(19, "9 of 24", x.odds(1, 9999, 9999, 1), 8);
+        Checks.due(19, "3 of 11", x.odds(3, 0, 10, 0), 3);
+        Checks.due(19, "3 of 11", x.odds(3, 0, 10, 1), 11);
         Checks.refused(19, "no such fault", x, -1, () -> x.odds(5, -1, 0, 2));
         Checks.refused(19, "no such part", x, -2, () -> x.odds(0, -1, 0, 2));
         Checks.refused(19, "no such part", x, -2, () -> x.odds(0, 10, 0, -1));
@@ -74,6 +76,7 @@ public final class TellTest {
         Checks.due(20, "1 and 4", x.twos(25, 5, 3), 14);
         Checks.due(20, "sums of 25 by 4", x.twos(25, 4, -1), 0);
         Checks.due(20, "all", x.twos(0, 9999, -1), 10);
+        Checks.due(20, "all but the one of no more than 10", x.twos(9999, 9988, -1), 8);
         Checks.refused(20, "i below", x, -4, () -> x.twos(10000, 0, -2));
         Checks.refused(20, "count below", x, -4, () -> x.twos(-1, 0, 0));
         Checks.refused(20, "off below", x, -4, () -> x.twos(0, -1, 0));
@@ -100,6 +103,8 @@ public final class TellTest {
         Checks.refused(21, "one twice", y, -1, () -> y.apart(1, 1));
         Checks.refused(21, "no such fault", y, -1, () -> y.apart(4, 0));
         Checks.refused(21, "no such fault", y, -1, () -> y.apart(0, -1));
+        ClickEachTurn z = Checks.bike("r10;r20;qo00,0,1,1;qb00,0,1,1,2/1;");
+        Checks.due(21, "by going back alone, which is not looked at", z.apart(0, 1), -9);
         Checks.due(21, "no cogs", Checks.bike("qp00,0,1,1;qp00,9,1,1;").apart(0, 1), -9);
         cracksApart();
     }
@@ -127,6 +132,9 @@ public final class TellTest {
         y.set(0, 9);
         Checks.due(22, "none tells", y.tells(5, 0), 0);
         Checks.due(22, "one alone", y.tells(5, 1), 1);
+        ClickEachTurn z = Checks.bike("r10;r20;qo00,0,1,1;qb00,0,1,1,2/1;");
+        Checks.due(22, "by going back alone, which is not looked at", z.tells(60, 1), 1);
+        Checks.due(22, "so the first stage", z.tells(1, 0), 0);
         Checks.refused(22, "other", y, -2, () -> y.tells(0, 2));
         Checks.refused(22, "other", y, -2, () -> y.tells(1, -1));
         Checks.refused(22, "n below", y, -4, () -> y.tells(0, 0));
@@ -180,6 +188,13 @@ public final class TellTest {
         Checks.due(24, "a tooth in the second gear", y.beat(0, 1, 1), 49);
         // In the first gear it comes by in steps 33, 99, 166, 233, 299 .. and never in 49, 149 ..
         Checks.due(24, "a tooth in the first gear", y.beat(0, 1, 0), -9);
+        // Both come by in step 2000, and not together ahead of it.
+        ClickEachTurn z = Checks.bike("f60;r37;qt44,0,1,1;qp01,0,1,1;qd01,0,1,1;");
+        Checks.due(24, "in step 2000", z.beat(0, 1, 0), -9);
+        Checks.due(24, "in step 0", z.beat(1, 2, 0), 0);
+        z.stage(0, 0, 1);
+        z.go();
+        Checks.due(24, "in step 1900 then", z.beat(0, 1, 0), 1900);
     }
 
     private static void promise25() {
