@@ -101,7 +101,7 @@ public final class FaceTest {
         calls(x);
         bean.getThreadAllocatedBytes(Thread.currentThread().getId());
         long before = bean.getThreadAllocatedBytes(Thread.currentThread().getId());
-        for (int i = 0; i < 15; i++) calls(x);
+        for (int i = 0; i < 13; i++) calls(x);
         long made = bean.getThreadAllocatedBytes(Thread.currentThread().getId()) - before;
         must(made < 1000, "calls make no objects, but " + made + " bytes were made");
     }

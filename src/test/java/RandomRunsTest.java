@@ -81,8 +81,9 @@ public final class RandomRunsTest {
         StringBuilder text = new StringBuilder();
         for (int i = to(3); i > 0; i--) text.append("r").append(number(10, 40)).append(";");
         for (int i = 1 + to(4); i > 0; i--) text.append(statement());
+        if (text.length() > 64) text.setLength(text.substring(0, 64).lastIndexOf(";") + 1);
         if (to(9) == 0) spoil(text);
-        return text.substring(0, Math.min(64, text.length()));
+        return text.toString();
     }
 
     private void spoil(StringBuilder text) {
